@@ -18,13 +18,16 @@ public final class ModelTest {
     private static final Map<String, Integer> ANSWERED = new TreeMap<>();
 
     public static void main(String[] args) {
-        int runs = args.length > 0 ? Integer.parseInt(args[0]) : 1500;
+        int runs = args.length > 0 ? Integer.parseInt(args[0]) : 800;
         int from = args.length > 1 ? Integer.parseInt(args[1]) : 0;
         for (int run = from; run < from + runs && wrong < 5; run++) {
             new Run(run).go();
         }
         for (int seed = from; seed < from + 40 * runs && wrong < 5; seed++) {
             readSpoiled(seed);
+        }
+        for (int seed = from; seed < from + runs / 5 && wrong < 5; seed++) {
+            new Run(seed).seekMuch();
         }
         demandVariety();
         System.out.println(wrong == 0 ? "model and class agree" : wrong + " answers differ");
@@ -162,6 +165,16 @@ public final class ModelTest {
         }
     }
 
+    /** Lands in which cheapest() is spent for six hours, but not for five. */
+    private static final String[] MANY_STATES = {
+        "fly 11;full 1;house 14 level 1 stock 50;house 16 level 1 stock 91;house 9 level 1 stock 30;"
+            + "house 17 level 2 stock 38;rope 3 0 long 5 at 0 stones 3 1;"
+            + "rope 0 2 long 7 at 3 stones 2 0;rope 2 1 long 6 at 0 stones 1 2;",
+        "fly 10;full 1;house 12 level 2 stock 66;house 5 level 1 stock 4;house 18 level 2 stock 51;"
+            + "house 17 level 1 stock 46;rope 0 3 long 8 at 2 stones 3 2;"
+            + "rope 2 1 long 9 at 4 stones 0 3;rope 0 3 long 9 at 1 stones 3 1;",
+    };
+
     /** One object's run of calls. */
     private static final class Run {
         final int run;
@@ -194,8 +207,50 @@ public final class ModelTest {
             compare(run, log, call, got, want);
         }
 
+        /** A small land in which much can be reached, and all that can be sought in it. */
+        void seekMuch() {
+            StringBuilder sb = new StringBuilder();
+            int n = 3 + d.nextInt(2);
+            sb.append("fly ").append(4 + d.nextInt(12)).append(";");
+            for (int h = 0; h < n; h++) {
+                sb.append("house ").append(1 + d.nextInt(10)).append(" level ").append(1 + d.nextInt(2))
+                        .append(" stock ").append(d.nextInt(4)).append(";");
+            }
+            for (int r = 0; r < 3; r++) {
+                int a = d.nextInt(n);
+                int length = 2 + d.nextInt(3);
+                sb.append("rope ").append(a).append(' ').append((a + 1 + d.nextInt(n - 1)) % n)
+                        .append(" long ").append(length).append(" at ").append(d.nextInt(length + 1))
+                        .append(" stones ").append(d.nextInt(5)).append(' ').append(d.nextInt(5))
+                        .append(";");
+            }
+            read(run < MANY_STATES.length ? MANY_STATES[run] : sb.toString());
+            if (d.nextInt(3) == 0 && run >= MANY_STATES.length) {
+                int seed = d.nextInt();
+                call("drought", seed, 3, () -> x.drought(seed, 3), () -> m.drought(seed, 3));
+            }
+            for (int i = 0; i < m.houses.size(); i++) {
+                int h = i;
+                for (int k = 1; k <= 6; k++) {
+                    int few = k;
+                    call("cheapest", h, k, () -> x.cheapest(h, few), () -> m.cheapest(h, few));
+                    call("soonest", h, k, () -> x.soonest(h, few), () -> m.soonest(h, few));
+                    call("alone", h, k, 0, () -> x.alone(h, few, 0), () -> m.alone(h, few, 0));
+                    call("alone", h, k, 9 + k, () -> x.alone(h, few, 9 + few),
+                            () -> m.alone(h, few, 9 + few));
+                }
+                for (int k = 0; k < 3; k++) {
+                    int r = k;
+                    call("loss", h, r, () -> x.loss(h, r), () -> m.loss(h, r));
+                }
+            }
+        }
+
         void newLand() {
-            String text = landText(d);
+            read(landText(d));
+        }
+
+        void read(String text) {
             feed(x, text);
             m.feedText(text);
             int n = text.length();

@@ -516,6 +516,10 @@ public final class PromisesTest {
         run(25, houses(4) + ropes(0, 1, 1, 2, 2, 3, 3, 0), "soonest 0 1 = -4", "cheapest 0 1 = -4",
                 "loss 0 0 = -4", "cut 0 = 0", "soonest 0 1 = -1", "cheapest 0 1 = -1",
                 "loss 0 1 = -5");
+        // A house pulls one rope in an hour: the other bucket sinks the while.
+        run(25, "fly 40;house 9 level 1;house 0 level 9;house 0 level 9;rope 0 1 long 2 at 1;"
+                + "rope 0 2 long 2 at 1;", "pass = 0", "count 6 = 2", "soonest 0 1 = 1",
+                "soonest 0 2 = 3");
         theStates();
         run(25, "house 9 level 1;house 1;rope 0 1 long 2 at 1;", "pass = 0", "soonest 0 1 = 1",
                 "soonest 0 2 = 3", "cheapest 0 1 = 1");
@@ -525,6 +529,15 @@ public final class PromisesTest {
                 "loss 0 2 = -2", "loss -1 0 = -2", "loss 0 -1 = -2", "loss 2 0 = -5",
                 "loss 1 0 = -5", "rope 0 9 = 0", "cut 1 = 0", "loss 0 0 = -1", "loss 0 1 = -5",
                 "loss 3 1 = -2");
+        // Without the first rope there is more stock for the others: it is sooner by three hours.
+        run(26, "fly 40;house 9 level 2 stock 1;house 5 level 2 stock 1;rope 1 0 long 7 at 1;"
+                + "rope 1 0 long 3 at 2;rope 1 0 long 9 at 9;", "soonest 0 1 = 6", "loss 0 0 = -3",
+                "cut 0 = 0", "soonest 0 1 = 3");
+        // Too many states behind the last hour don't matter, behind the last but one they do.
+        run(27, "fly 11;full 1;house 14 level 1 stock 50;house 16 level 1 stock 91;"
+                + "house 9 level 1 stock 30;house 17 level 2 stock 38;"
+                + "rope 3 0 long 5 at 0 stones 3 1;rope 0 2 long 7 at 3 stones 2 0;"
+                + "rope 2 1 long 6 at 0 stones 1 2;", "cheapest 1 5 = 1", "cheapest 1 6 = -4");
         run(27, two, "cheapest 0 1 = -1", "cheapest 0 2 = 2", "cheapest 0 6 = 2",
                 "cheapest 0 0 = -3", "cheapest 0 7 = -3", "cheapest 3 7 = -2", "cheapest -1 1 = -2",
                 "cut 0 = 0", "cheapest 0 3 = -1", "cheapest 0 4 = 4", "cheapest 0 5 = 4",
