@@ -1,20 +1,12 @@
-import java.lang.reflect.Method;
-import java.nio.charset.StandardCharsets;
-import java.util.Arrays;
-
 /**
  * For each promise of the document runs of calls on new objects, each call with the answer that is
- * due. A run is told as texts: "pull 0 1 = 0" is a call, "read T = 3" feeds the text T and reads it
- * by land(), "row 0 1: 5 -1 7" makes row 0 of sort 1 with these numbers, "times 9 live 99" calls
- * nine times whatever it answers.
+ * due, told as Calls says.
  */
 public final class PromisesTest {
     private static final String TO_LAST_HOUR = "times 101 live 99";
     private static final String TWO = "house 1;house 1;";
-    private static int wrong = 0;
-    private static int calls = 0;
 
-    public static void main(String[] args) throws Exception {
+    public static void main(String[] args) {
         theLand();
         theFaults();
         theHouses();
@@ -30,84 +22,16 @@ public final class PromisesTest {
         theSeen();
         theRows();
         theImages();
-        System.out.println(wrong == 0 ? "all " + calls + " answers are as due"
-                : wrong + " answers are not as due");
-        if (wrong != 0) {
+        System.out.println(Calls.wrong == 0 ? "all " + Calls.calls + " answers are as due"
+                : Calls.wrong + " answers are not as due");
+        if (Calls.wrong != 0) {
             System.exit(1);
         }
     }
 
-    // ---- how runs are told
-
-    private static void run(int promise, String text, String... steps) throws Exception {
-        TwoWells x = new TwoWells();
-        if (!text.isEmpty()) {
-            due(promise, text, "read", read(x, text) >= 0 ? 1 : 0, 1);
-        }
-        for (String step : steps) {
-            if (step.startsWith("row ")) {
-                tellRow(promise, x, step);
-            } else if (step.startsWith("times ")) {
-                String[] w = step.split(" ", 3);
-                for (int i = 0; i < Integer.parseInt(w[1]); i++) {
-                    call(x, w[2]);
-                }
-            } else {
-                int cut = step.lastIndexOf(" = ");
-                due(promise, text, step, call(x, step.substring(0, cut)),
-                        Long.parseLong(step.substring(cut + 3)));
-            }
-        }
-    }
-
-    private static void due(int promise, String text, String step, long got, long want) {
-        calls++;
-        if (got != want) {
-            wrong++;
-            System.out.println("promise " + promise + ", " + text + ": " + step + " answered " + got);
-        }
-    }
-
-    private static void tellRow(int promise, TwoWells x, String step) {
-        String[] w = step.replace(":", "").split(" ");
-        int row = Integer.parseInt(w[1]);
-        due(promise, "", step, x.numbers(row, Integer.parseInt(w[2]), w.length - 3), 0);
-        for (int i = 3; i < w.length; i++) {
-            due(promise, "", step, x.write(row, i - 3, Long.parseLong(w[i])), Long.parseLong(w[i]));
-        }
-    }
-
-    private static long call(TwoWells x, String step) throws Exception {
-        if (step.startsWith("read ")) {
-            return read(x, step.substring(5));
-        }
-        String[] w = step.split(" ");
-        for (Method m : TwoWells.class.getDeclaredMethods()) {
-            if (m.getName().equals(w[0])) {
-                Class<?>[] types = m.getParameterTypes();
-                Object[] values = new Object[types.length];
-                for (int i = 0; i < types.length; i++) {
-                    values[i] = types[i] == boolean.class ? (Object) Boolean.valueOf(w[i + 1])
-                            : types[i] == long.class ? (Object) Long.valueOf(w[i + 1])
-                            : (Object) Integer.valueOf(w[i + 1]);
-                }
-                return ((Number) m.invoke(x, values)).longValue();
-            }
-        }
-        throw new IllegalStateException(step);
-    }
-
-    private static int read(TwoWells x, String text) {
-        byte[] b = text.getBytes(StandardCharsets.ISO_8859_1);
-        byte[] all = Arrays.copyOf(b, (b.length + 19) / 20 * 20);
-        for (int i = 0; i < all.length; i += 20) {
-            int[] v = new int[5];
-            for (int k = 0; k < 20; k++) {
-                v[k / 4] = v[k / 4] << 8 | all[i + k] & 255;
-            }
-            x.feed(v[0], v[1], v[2], v[3], v[4]);
-        }
-        return x.land(b.length);
+    private static void run(int promise, String text, String... steps) {
+        Calls.name = "promise " + promise;
+        Calls.run(text, steps);
     }
 
     private static String many(String line, int times) {
@@ -116,7 +40,7 @@ public final class PromisesTest {
 
     // ---- the land
 
-    private static void theLand() throws Exception {
+    private static void theLand() {
         run(1, "", "count 0 = 0", "count 1 = 0", "count 2 = 0", "count 3 = 5", "count 4 = 8",
                 "count 5 = 0", "count 6 = 0", "count 7 = 0", "count 8 = 0", "fault 0 = 0",
                 "fault 1 = -1", "house 0 0 = -2", "rope 0 0 = -2", "perform 0 = -6",
@@ -153,17 +77,17 @@ public final class PromisesTest {
         run(3, "", "read " + many(" ", 891) + "house 20; = 1", "house 0 0 = 20");
     }
 
-    private static void fine(String text, int lines) throws Exception {
+    private static void fine(String text, int lines) {
         run(4, "", "read " + text + " = " + lines, "fault 0 = 0", "fault 1 = -1");
     }
 
-    private static void faulty(String text, int kind, int place) throws Exception {
+    private static void faulty(String text, int kind, int place) {
         run(4, "", "read " + text + " = " + (-30 - kind), "fault 0 = " + kind,
                 "fault 1 = " + place, "count 0 = 0", "count 8 = 0", "fault 2 = -1",
                 "fault -1 = -1");
     }
 
-    private static void theFaults() throws Exception {
+    private static void theFaults() {
         fine(" \n\n ", 0);
         fine("house 0001 ;\nhouse\n20 ; ", 2);
         fine("house5level1stock0thirst0;", 1);
@@ -235,7 +159,7 @@ public final class PromisesTest {
                 "fault 1 = 3", "read fly 2; = 1", "fault 0 = 0", "fault 1 = -1");
     }
 
-    private static void theHouses() throws Exception {
+    private static void theHouses() {
         run(5, "house 20 level 9 stock 99 thirst 4095;house 0;house 7 stock 0;rope 1 0 long 3;"
                 + "rope 2 1 long 3;rope 2 1 long 3;", "house 0 0 = 20", "house 0 1 = 9",
                 "house 0 2 = 99", "house 0 3 = 4095", "house 0 4 = 0", "house 0 5 = 0",
@@ -253,7 +177,7 @@ public final class PromisesTest {
 
     // ---- hours
 
-    private static void theHours() throws Exception {
+    private static void theHours() {
         // Eight more is enough to fly by custom, seven is not.
         run(7, "house 0;house 0 level 9;rope 0 1 long 6 stones 8 0;", "pass = 0", "rope 0 3 = 6",
                 "rope 0 4 = 0", "rope 0 5 = 1", "rope 0 7 = 15", "house 0 2 = 8", "count 2 = 1");
@@ -307,7 +231,7 @@ public final class PromisesTest {
                 "stones -1 false 10 = -2");
     }
 
-    private static void theToldHours() throws Exception {
+    private static void theToldHours() {
         String three = "house 2;house 1;house 1;rope 0 1 long 9 at 4;rope 1 2 long 9 at 4;";
         run(9, three, "row 0 1: 0 20 -1 21 41", "judge 0 0 = -1", "judge 0 1 = 0",
                 "judge 0 2 = 2", "judge 0 3 = 0", "judge 0 4 = 4", "count 2 = 0", "rope 0 3 = 4");
@@ -346,7 +270,7 @@ public final class PromisesTest {
                 "count 2 = 9999", "perform 0 = 0");
     }
 
-    private static void theCustom() throws Exception {
+    private static void theCustom() {
         String both = "fly 40;house 3 level 1 thirst 4095;house 2 level 1 thirst 4095;"
                 + "rope 0 1 long 4 at 2;";
         run(11, both, "custom 3 0 = 1", "custom 3 1 = 1", "custom 3 2 = 5", "custom 3 3 = 2",
@@ -373,7 +297,7 @@ public final class PromisesTest {
                 "live 1 = 0", "rope 0 3 = 0", "rope 1 3 = 2", "live 1 = 0", "rope 1 3 = 1");
     }
 
-    private static void theDrought() throws Exception {
+    private static void theDrought() {
         // The first draws by seed 1 are 16838, 38526, 10113, 50283.
         String one = "house 1;house 0;rope 0 1 long 4 at 2;";
         run(13, one, "drought 1 1 = 0", "rope 0 3 = 2", "count 2 = 1");
@@ -424,7 +348,7 @@ public final class PromisesTest {
 
     // ---- rest
 
-    private static void theRest() throws Exception {
+    private static void theRest() {
         String four = "house 0;house 0;rope 0 1 long 4;rope 0 1 long 4 stones 1 0;"
                 + "rope 0 1 long 4 at 4 stones 1 0;rope 0 1 long 4 stones 0 1;";
         run(16, four, "rests = 13", "cut 1 = 0", "rests = 15");
@@ -466,7 +390,7 @@ public final class PromisesTest {
         return sb.toString();
     }
 
-    private static void theRings() throws Exception {
+    private static void theRings() {
         String path = houses(3) + ropes(0, 1, 1, 2);
         String square = houses(4) + ropes(0, 1, 1, 2, 2, 3, 3, 0);
         String star = houses(4) + ropes(0, 1, 0, 2, 3, 0);
@@ -503,7 +427,7 @@ public final class PromisesTest {
 
     // ---- sought
 
-    private static void theSought() throws Exception {
+    private static void theSought() {
         String slow = "house 9 level 1;house 1;rope 0 1 long 2;";
         run(25, slow, "soonest 0 1 = 2", "soonest 0 2 = 4", "soonest 0 3 = 6", "soonest 1 1 = -1",
                 "soonest 2 1 = -2", "soonest -1 9 = -2", "soonest 0 0 = -3", "soonest 0 4 = -3",
@@ -552,7 +476,7 @@ public final class PromisesTest {
      * do: 3,000 states are not too many. One more is, if the land begins with a bucket that fills in
      * any case, as it can't be empty there again.
      */
-    private static void theStates() throws Exception {
+    private static void theStates() {
         String pair = "house 1 stock 0;house 1 stock 0;house 6 level 1 stock 2;house 1 stock 0;"
                 + "rope 0 1 long 9;rope 0 1 long 9;";
         run(25, pair + "rope 2 3 long 9;", "soonest 0 1 = -1", "loss 0 2 = -5", "soonest 2 1 = 2");
@@ -560,7 +484,7 @@ public final class PromisesTest {
                 "soonest 2 1 = 2", "pass = 0", "soonest 0 1 = -1");
     }
 
-    private static void theAlone() throws Exception {
+    private static void theAlone() {
         run(28, "fly 40;house 9 level 1;house 0;rope 0 1 long 2 at 1;", "alone 0 1 0 = 0",
                 "alone 0 1 10 = -1", "alone 0 2 0 = 1", "alone 0 2 10 = -1", "alone 0 2 11 = 0",
                 "alone 0 3 10 = -1", "alone 0 3 11 = 0", "alone 0 3 12 = -1", "alone 0 2 12 = -7",
@@ -587,7 +511,7 @@ public final class PromisesTest {
         run(29, "house 0 thirst 4095;house 0 thirst 4095;", "mate 0 = 1", "mate 1 = 0");
     }
 
-    private static void theDwellings() throws Exception {
+    private static void theDwellings() {
         run(30, "house 0 thirst 1;house 0 thirst 1;house 0 thirst 2;rope 0 1 long 2;",
                 "dwellings 0 = 0", "dwellings 1 = 2", "dwellings 10 = 0", "dwellings 11 = 2",
                 "dwellings 12 = 1", "dwellings 13 = -2", "dwellings 2 = -2", "dwellings 9 = -2",
@@ -608,7 +532,7 @@ public final class PromisesTest {
                 "clash -2 = -2", "cut 0 = 0", "clash -1 = 2");
     }
 
-    private static void theSeen() throws Exception {
+    private static void theSeen() {
         String like = "house 5;house 5;rope 0 1 long 4 at 2;";
         run(32, like, "row 0 0: 2", "seen 0 = 2", "row 0 0: 1", "seen 0 = 1", "row 0 0: 3",
                 "seen 0 = 1", "row 0 0: 4", "seen 0 = 0", "row 0 3: 4294967297", "seen 0 = 0",
@@ -634,7 +558,7 @@ public final class PromisesTest {
 
     // ---- rows of numbers, images
 
-    private static void theRows() throws Exception {
+    private static void theRows() {
         run(34, "", "numbers 4 0 1 = -2", "numbers -1 0 1 = -2", "numbers 0 4 1 = -2",
                 "numbers 0 -1 61 = -2", "numbers 0 0 61 = -3", "numbers 0 0 -1 = -3",
                 "write 0 0 1 = -6", "numbers 0 0 60 = 0", "write 0 59 5 = 5", "write 0 60 5 = -7",
@@ -664,7 +588,7 @@ public final class PromisesTest {
         run(36, TWO, "row 0 0:", "copy 0 = 0");
     }
 
-    private static void theImages() throws Exception {
+    private static void theImages() {
         String both = "fly 40;full 2;house 3 level 1 thirst 4095;house 2 level 1 thirst 4095;"
                 + "rope 0 1 long 4 at 2;rope 1 0 long 4;";
         run(37, both, "image 2 = -2", "image -1 = -2", "restore 2 = -2", "restore -1 = -2",
