@@ -1465,7 +1465,7 @@ public final class TwoWells {
         void settle(Land land) {
             houses = Math.min(land.houses, MOST_DWELLERS);
             countRopes(land);
-            leastClash = Integer.MAX_VALUE;
+            leastClash = DAY * MOST_ROPES + 1;
             fewestMoved = 0;
             place(land, 0, 0, 0, 0);
         }

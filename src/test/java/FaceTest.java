@@ -101,7 +101,7 @@ public final class FaceTest {
             "\\bthrow\\b", "\\bthrows\\b", "\\btry\\b", "\\bcatch\\b", "\\bassert\\b",
             "\\bsynchronized\\b", "->", "::", "\\bSystem\\.(?!arraycopy\\b)", "^package\\b",
             "^import (?!java\\.util\\.Arrays;)", "Exact\\b", "\\bjava\\.(?!util\\.Arrays;)",
-            "[^\\x00-\\x7f]",
+            "[^\\x00-\\x7f]", "\\b(Integer|Long|Math)\\.[A-Z]",
         };
         for (String b : barred) {
             Matcher m = Pattern.compile(b, Pattern.MULTILINE).matcher(text);

@@ -183,6 +183,25 @@ final class LandEdges {
                 "keeps read house = -32", "count 7 = 0", "count 2 = 3", "count 8 = 6");
     }
 
+    @Says("All buckets are empty at first.")
+    static void promise03_nothingOfTheLandAhead() {
+        // As full as a land can be: sixteen ropes, all filled, drunk from or cut.
+        String lived = "full 9;fly 40;house 20 level 1 stock 99 thirst 3;".concat(
+                "house 0 level 1 thirst 4095;".repeat(9)) + "rope 0 9 long 2 at 1 stones 9 9;".repeat(16);
+        Calls.run("house 9 level 1 thirst 1;house 9 level 1 thirst 2;rope 0 1 long 2 at 1 stones 1 1;",
+                "pass = 0", "pull 0 0 = 1", "pull 1 0 = 0", "pull 1 0 = 1", "cut 0 = 0",
+                "house 0 4 = 1", "house 1 4 = 1", "calm = 0", "custom 1 0 = 0",
+                "read " + TWO + "rope 0 1 long 2; = 3",
+                "house 0 1 = 3", "house 0 2 = 9", "house 0 3 = 0", "house 0 4 = 0", "house 1 3 = 0",
+                "house 1 4 = 0", "house 1 5 = 0", "house 1 6 = 0", "rope 0 3 = 0", "rope 0 5 = 0",
+                "rope 0 6 = 0", "rope 0 7 = 2", "rope 0 8 = 2", "rope 0 9 = 0");
+        Calls.run(lived, "pass = 0", "count 6 = 25", "pull 0 15 = 1", "cut 15 = 0", "count 3 = 9",
+                "calm = 0", "house 0 5 = 1",
+                "read " + TWO + "rope 0 1 long 2;".repeat(16) + " = 18", "count 3 = 5", "count 4 = 8",
+                "count 6 = 0", "rests = 65535", "even = 0", "rope 15 9 = 0", "rope 15 3 = 0",
+                "rope 15 6 = 0", "rope 15 7 = 2", "rope 15 8 = 2", "house 0 3 = 0", "house 0 4 = 0");
+    }
+
     @Says("-30 less the FAULT")
     static void promise03_minus31To34() {
         Calls.run("", "read ! = -31", "read fly = -32", "read fly 0; = -33",
@@ -405,6 +424,27 @@ final class LandEdges {
         faulty("full fly;", 2, 5);
         faulty("level 1;", 2, 0);
         faulty("bell 1;", 2, 0);
+        // Words that are one letter off, at their first or their last.
+        faulty("mouse 1;", 2, 0);
+        faulty("housf 1;", 2, 0);
+        faulty("bull 1;", 2, 0);
+        faulty("fulm 1;", 2, 0);
+        faulty("sly 1;", 2, 0);
+        faulty("flx 1;", 2, 0);
+        faulty("house 1 bevel 1;", 2, 8);
+        faulty("house 1 levem 1;", 2, 8);
+        faulty("house 1 ttock 1;", 2, 8);
+        faulty("house 1 stocj 1;", 2, 8);
+        faulty("house 1 shirst 1;", 2, 8);
+        faulty("house 1 thirss 1;", 2, 8);
+        faulty(TWO + "pope 0 1 long 2;", 2, 16);
+        faulty(TWO + "ropf 0 1 long 2;", 2, 16);
+        faulty(TWO + "rope 0 1 song 2;", 2, 25);
+        faulty(TWO + "rope 0 1 lonk 2;", 2, 25);
+        faulty(TWO + "rope 0 1 long 2 it 1;", 2, 32);
+        faulty(TWO + "rope 0 1 long 2 as 1;", 2, 32);
+        faulty(TWO + "rope 0 1 long 2 atones 1 1;", 2, 32);
+        faulty(TWO + "rope 0 1 long 2 stonet 1 1;", 2, 32);
         faulty("house level 1;", 2, 6);
         faulty("house 1 level ;", 2, 14);
         faulty("house 1 stock 1 level 1;", 2, 16);
@@ -513,6 +553,13 @@ final class LandEdges {
         Calls.run(TWO + "rope 0 1 long 7;", "still rope 0 9 = 0", "still rope 0 10 = -2",
                 "still rope 0 -1 = -2", "rope 0 " + LEAST_INT + " = -2",
                 "rope 0 " + GREATEST_INT + " = -2", "cut 0 = 0", "rope 0 9 = 1", "rope 0 10 = -2");
+    }
+
+    @Says("Of a ROPE, what 0: its FIRST, 1: its SECOND, 2: LENGTH")
+    static void promise06_eachOfThree() {
+        Calls.run(houses(4) + "rope 0 1 long 2;rope 2 0 long 3;rope 3 2 long 4;", "rope 0 0 = 0",
+                "rope 0 1 = 1", "rope 0 2 = 2", "rope 1 0 = 2", "rope 1 1 = 0", "rope 1 2 = 3",
+                "rope 2 0 = 3", "rope 2 1 = 2", "rope 2 2 = 4");
     }
 
     @Says("3: DEPTH of the first bucket, 4: of the second, 5: 1 if the first is full, 6: the second (else 0), 7: what the first weighs, 8: the second")

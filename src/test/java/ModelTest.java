@@ -165,8 +165,19 @@ public final class ModelTest {
         }
     }
 
-    /** Lands in which cheapest() is spent for six hours, but not for five. */
+    /** Lands at the bounds of what is sought, found by trying: SoughtEdges has their answers, too. */
     private static final String[] MANY_STATES = {
+        "full 1;house 14 level 1;house 7 level 1;house 11 level 1;house 6 level 2;rope 1 0 long 6 at 6;"
+            + "rope 3 0 long 4;rope 0 2 long 9;",
+        "fly 13;full 1;house 15 level 2;house 18 level 1;house 8 level 1;house 6 level 1;"
+            + "rope 3 1 long 6 at 6 stones 1 0;rope 0 2 long 5 at 3;rope 0 1 long 4 at 1;",
+        "fly 9;full 1;house 18 level 2;house 11 level 1;house 9 level 2;house 15 level 2;"
+            + "rope 1 2 long 8 at 7;rope 1 3 long 8 at 4;rope 3 0 long 5 at 3;",
+        "full 2;house 16 level 1;house 6 level 1;house 6 level 2;house 9 level 1;rope 1 2 long 6 at 2;"
+            + "rope 0 3 long 9 at 6;rope 3 1 long 8 at 3;",
+        "house 9 level 1;house 1;house 9 level 1;house 9 level 1;rope 0 1 long 2;rope 2 3 long 9;"
+            + "rope 3 2 long 9;",
+        "fly 3;house 6 level 2;house 12 level 2;rope 0 1 long 4;",
         "fly 11;full 1;house 14 level 1 stock 50;house 16 level 1 stock 91;house 9 level 1 stock 30;"
             + "house 17 level 2 stock 38;rope 3 0 long 5 at 0 stones 3 1;"
             + "rope 0 2 long 7 at 3 stones 2 0;rope 2 1 long 6 at 0 stones 1 2;",

@@ -46,6 +46,9 @@ final class RestEdges {
         Calls.run(DRY, "rests = 0");
         Calls.run(DRY + "rope 0 1 long 2;".repeat(16), "rests = 65535", "stones 15 false 1 = 3",
                 "rests = 32767", "stones 0 false 1 = 3", "rests = 32766");
+        // However strong the houses are: nobody pulls.
+        Calls.run("house 20 stock 0;house 20 stock 0;rope 0 1 long 4 at 2;rope 0 1 long 4 at 2 stones 1 0;"
+                + "rope 0 1 long 4 at 4 stones 1 0;", "rests = 5", "calm = 2");
         // What fills in that hour moves only in the next one.
         Calls.run("house 0 level 1;house 0 stock 0;rope 0 1 long 4 at 2;", "rests = 1", "pass = 0",
                 "rests = 0");
@@ -75,6 +78,37 @@ final class RestEdges {
         // They rest now, though a bucket fills and sinks an hour later.
         Calls.run("house 0 level 1;house 0 stock 0;rope 0 1 long 4 at 2;", "calm = 0", "pass = 0",
                 "calm = 2");
+    }
+
+    @Says("till all REST (0: they do). NONE: not within 99.")
+    static void promise17_asManyHoursAsItSays() {
+        // No land seems to swing for so long; many kinds of ropes are tried, with stock or without.
+        int[] stones = {0, 1, 4, 5, 6, 9};
+        for (int first : stones) {
+            for (int second : stones) {
+                for (int depth = 0; depth <= 9; depth += 3) {
+                    for (int level = 1; level <= 9; level += 4) {
+                        calmAsItPasses("house 20 level " + level + " stock 1;house 20 level "
+                                + (10 - level) + " stock 2;rope 0 1 long 9 at " + depth + " stones "
+                                + first + " " + second + ";rope 1 0 long 5 at 2;");
+                    }
+                }
+            }
+        }
+    }
+
+    /** Hours go by as many times as calm() says: all rest then, and not ahead of it. */
+    private static void calmAsItPasses(String text) {
+        TwoWells x = new TwoWells();
+        Calls.read(x, text);
+        x.pull(0, 0);
+        int calm = x.calm();
+        Calls.due(text, "calm within 99", calm >= 0 && calm <= 99 ? 1 : 0, 1);
+        for (int hour = 0; hour < calm; hour++) {
+            Calls.due(text, "all rest in hour " + hour, x.rests() == 3 ? 1 : 0, 0);
+            x.pass();
+        }
+        Calls.due(text, "rests in hour " + calm, x.rests(), 3);
     }
 
     @Says("HOURS without pulls till all REST (0: they do).")
@@ -133,6 +167,15 @@ final class RestEdges {
         Calls.run(rope + "4;", "lifts 0 0 = 1", "lifts 1 0 = 0");
     }
 
+    @Says("Whether a HOUSE could raise its bucket of a ROPE, if it alone pulled: 1, 0.")
+    static void promise19_eachOfThree() {
+        Calls.run("house 9 stock 0;house 1 stock 0;house 5 stock 0;rope 0 1 long 4 at 2 stones 3 3;"
+                + "rope 2 0 long 4 at 2 stones 6 0;rope 1 2 long 4 at 4 stones 0 1;",
+                "lifts 0 0 = 1", "lifts 1 0 = 1", "lifts 2 1 = 0", "lifts 0 1 = 1", "lifts 1 2 = 1",
+                "lifts 2 2 = 0", "stones 1 false 4 = 6", "lifts 2 1 = 1", "stones 1 true 9 = 11",
+                "lifts 0 1 = 1", "stones 2 false 2 = 4", "lifts 1 2 = 0");
+    }
+
     @Says("-2: the HOUSE, ROPE, not one of its ROPES; -5: it is CUT.")
     static void promise19_noSuchHouseOrRope() {
         Calls.run(land(3, 0, 1, 1, 2), "still lifts 3 0 = -2", "still lifts -1 0 = -2",
@@ -168,6 +211,7 @@ final class RestEdges {
         Calls.run(land(10, 0, 1, 2, 3, 4, 5, 6, 7, 8, 9), "together = 341");
         // The greatest one, though there are lesser bits.
         Calls.run(land(4, 0, 1, 0, 2, 0, 3), "together = 14");
+        Calls.run(land(4, 1, 0, 2, 0, 3, 0), "together = 14");
     }
 
     // ---- promise 21
@@ -217,7 +261,11 @@ final class RestEdges {
         // Rings of 4, 3 and 2, each cut in turn.
         Calls.run(land(9, 0, 1, 1, 2, 2, 3, 3, 0, 4, 5, 5, 6, 6, 4, 7, 8, 8, 7), "ring = 2",
                 "cut 8 = 0", "ring = 3", "cut 5 = 0", "ring = 4", "cut 0 = 0", "ring = -1");
+        // The least one is the first one that is told.
+        Calls.run(land(9, 7, 8, 8, 7, 4, 5, 5, 6, 6, 4, 0, 1, 1, 2, 2, 3, 3, 0), "ring = 2",
+                "cut 0 = 0", "ring = 3", "cut 2 = 0", "ring = 4", "cut 5 = 0", "ring = -1");
         Calls.run(land(4, 0, 1, 1, 2, 2, 3), "ring = -1");
+        Calls.run(land(4, 1, 0, 2, 0, 3, 0), "ring = -1");
     }
 
     // ---- promises 23 and 24
@@ -229,6 +277,8 @@ final class RestEdges {
                 "neighbours 0 = 31", "neighbours 4 = 31", "neighbours 5 = 992", "neighbours 9 = 992",
                 "cut 8 = 0", "neighbours 9 = 512", "neighbours 8 = 480");
         Calls.run(land(1), "neighbours 0 = 1");
+        Calls.run(land(5, 1, 0, 2, 0, 3, 0), "neighbours 0 = 15", "neighbours 2 = 15",
+                "neighbours 4 = 16", "cut 1 = 0", "neighbours 0 = 11", "neighbours 2 = 4");
         // By the last rope of a row that goes from the greatest numbers to the least.
         Calls.run(land(10, 9, 8, 8, 7, 7, 6, 6, 5, 5, 4, 4, 3, 3, 2, 2, 1, 1, 0), "neighbours 0 = 1023",
                 "neighbours 5 = 1023");
@@ -247,6 +297,9 @@ final class RestEdges {
         Calls.run(land(2, 0, 1), "still severs 0 = 1");
         Calls.run(land(2, 0, 1, 1, 0), "still severs 0 = 0", "severs 1 = 0", "cut 0 = 0",
                 "severs 1 = 1");
+        Calls.run(land(5, 0, 1, 0, 1, 2, 3, 4, 3), "severs 0 = 0", "severs 1 = 0", "severs 2 = 1",
+                "severs 3 = 1");
+        Calls.run(land(4, 0, 1, 2, 3, 3, 2), "severs 0 = 1", "severs 1 = 0", "severs 2 = 0");
         Calls.run(land(4, 0, 1, 1, 2, 2, 0, 2, 3), "severs 0 = 0", "severs 1 = 0", "severs 2 = 0",
                 "severs 3 = 1", "cut 0 = 0", "severs 1 = 1", "severs 2 = 1");
         Calls.run(land(10, 0, 1, 1, 2, 2, 3, 3, 4, 4, 5, 5, 6, 6, 7, 7, 8, 8, 9, 9, 0),

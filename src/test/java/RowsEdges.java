@@ -39,7 +39,7 @@ final class RowsEdges {
                 "still numbers 1 0 61 = -3", "still numbers 1 0 -1 = -3", "judge 1 0 = -6");
     }
 
-    @Says("-2: no such ROW, sort; -3, and the ROW stays: n is below 0 or above 60.")
+    @Says("(Of several that which the call tells first.)")
     static void promise34_whichCodeComesFirst() {
         Calls.run(TWO, "still numbers 4 0 61 = -2", "still numbers 0 4 -1 = -2",
                 "still numbers -1 -1 61 = -2", "still numbers 0 0 61 = -3");
@@ -87,7 +87,7 @@ final class RowsEdges {
                 "still write 3 0 5 = -6");
     }
 
-    @Says("as it is there. -2: no such ROW; -6; -7.")
+    @Says("(Of several that which the call tells first.)")
     static void promise35_whichCodeComesFirst() {
         Calls.run(TWO, "still write 4 -1 5 = -2", "still write 0 -1 5 = -6", "still write 0 60 5 = -6",
                 "numbers 0 0 0 = 0", "still write 0 0 5 = -7");
@@ -163,6 +163,23 @@ final class RowsEdges {
                 "restore 1 = 0", "count 2 = 2", "rope 0 9 = 0", "rope 1 9 = 1", "rope 0 8 = 8",
                 "house 0 4 = 1", "house 0 5 = 1", "house 0 2 = 7", "house 1 2 = 8", "count 8 = 6",
                 "still restore 1 = 0", "live 1 = 0", "count 2 = 3");
+        // The last house and the last rope: drunk, filled, cut.
+        String last = "fly 40;" + "house 0 stock 0;".repeat(8) + "house 9 level 1 stock 16;"
+                + "house 9 level 1 stock 16 thirst 2;"
+                + "rope 8 9 long 2 at 1;".repeat(16);
+        Calls.run(last, "pass = 0", "pull 9 14 = 1", "pull 8 14 = 0", "pull 9 14 = 0", "cut 15 = 0",
+                "house 9 5 = 1", "house 9 6 = 0", "count 6 = 29", "rope 15 6 = 1", "image 0 = 0",
+                "read house 1; = 1", "restore 0 = 0", "house 9 5 = 1", "count 6 = 29",
+                "rope 15 6 = 1", "rope 15 9 = 1", "rope 14 9 = 0");
+        // Back to where none of it was yet.
+        Calls.run(last, "image 1 = 0", "pass = 0", "image 0 = 0", "pull 9 15 = 1", "pull 8 15 = 0",
+                "restore 0 = 0", "house 9 4 = 0", "house 9 5 = 0", "rope 15 4 = 1", "rope 15 6 = 1",
+                "stones 15 false 9 = 16", "pass = 1", "house 9 5 = 1", "restore 0 = 0",
+                "rope 15 7 = 7", "live 1 = 1", "house 9 5 = 1", "restore 1 = 0", "rope 15 6 = 0",
+                "rope 15 5 = 0", "house 9 2 = 16", "house 9 5 = 0");
+        // Drunk outside of its hours of thirst, by the last house.
+        Calls.run(last, "image 1 = 0", "pass = 0", "pass = 0", "pull 9 15 = 1", "house 9 6 = 1",
+                "restore 1 = 0", "house 9 6 = 0", "house 9 4 = 0");
         // A land of nothing in place of one that is full, and back.
         String most = "full 9;fly 40;" + "house 20 level 9 stock 99 thirst 4095;".repeat(10)
                 + "rope 9 0 long 9 at 9 stones 9 9;".repeat(13);

@@ -46,9 +46,37 @@ final class SoughtEdges {
         Calls.run("fly 40;house 0 level 1;house 0 stock 0;" + "rope 0 1 long 2 at 2 stones 0 9;".repeat(3),
                 "soonest 0 1 = 2", "soonest 0 2 = 2", "soonest 0 3 = 2");
         Calls.run(SLOW, TO_LAST_HOUR, "soonest 0 1 = 2");
+        // Second buckets that are full now, of the first rope, the second and the third.
+        for (int r = 0; r < 3; r++) {
+            String open = "rope 1 0 long 2 at 1;";
+            String cut = "rope 2 3 long 9;";
+            Calls.run("fly 40;house 9 level 1 stock 1;house 0 stock 0;house 1 stock 0;house 1 stock 0;"
+                    + cut.repeat(r) + open + cut.repeat(2 - r), "soonest 0 1 = 2", "pass = 0",
+                    "rope " + r + " 6 = 1", "soonest 0 1 = 1", "soonest 0 2 = -1", "cheapest 0 1 = 1");
+        }
+        // Likewise first buckets: it takes as long as it is deep.
+        for (int r = 0; r < 3; r++) {
+            String other = "rope 0 2 long 3;";
+            Calls.run("fly 40;house 9 level 3 stock 1;house 0 stock 0;house 0 stock 0;" + other.repeat(r)
+                    + "rope 0 1 long 3 at 3;" + other.repeat(2 - r), "soonest 0 1 = 4", "pass = 0",
+                    "rope " + r + " 5 = 1", "soonest 0 1 = 3", "soonest 0 2 = -1", "cheapest 0 3 = 3",
+                    "cheapest 0 2 = -1");
+        }
     }
 
-    @Says("SOONEST. NONE: never")
+    @Says("In an HOUR each HOUSE pulls one of its ROPES, or none.")
+    static void promise25_oneRopeAnHour() {
+        // While one bucket is raised, the other one sinks: they can't both come in one hour.
+        String one = "fly 40;house 9 level 1;house 0 level 9;house 0 level 9;rope 0 1 long 2 at 1;"
+                + "rope 0 2 long 2 at 1;";
+        Calls.run(one, "pass = 0", "count 6 = 2", "soonest 0 1 = 1", "soonest 0 2 = 3",
+                "cheapest 0 1 = 1");
+        // Whatever was sought in another land ahead.
+        Calls.run(land(4, 0, 1, 2, 3, 1, 2), "soonest 0 1 = -1", "cheapest 3 6 = -1",
+                "read " + one + " = 6", "pass = 0", "soonest 0 2 = 3");
+    }
+
+    @Says("NONE, if there are no new ones.")
     static void promise25_never() {
         Calls.run(SLOW, "soonest 1 1 = -1", "cut 0 = 0", "still soonest 0 1 = -1");
         Calls.run("house 9;", "soonest 0 1 = -1");
@@ -164,6 +192,9 @@ final class SoughtEdges {
         Calls.run("fly 5;house 20 level 2;house 5 stock 0;rope 0 1 long 4 stones 1 0;",
                 "cheapest 0 1 = -1", "cheapest 0 2 = 2", "cheapest 0 3 = 1", "cheapest 0 6 = 1",
                 "soonest 0 1 = 2");
+        // The same state comes by five pulls first, and by four later on.
+        Calls.run("fly 3;house 6 level 2;house 12 level 2;rope 0 1 long 4;", "cheapest 0 3 = -1",
+                "cheapest 0 4 = 4");
         Calls.run(SLOW, "cheapest 0 1 = -1", "cheapest 1 6 = -1", "cut 0 = 0", "cheapest 0 6 = -1");
         Calls.run("house 9 level 1;house 1;rope 0 1 long 2 at 1;", "cheapest 0 1 = -1", "pass = 0",
                 "cheapest 0 1 = 1", TO_LAST_HOUR, "cheapest 0 1 = -1", "cheapest 0 2 = 2");
@@ -233,6 +264,32 @@ final class SoughtEdges {
                 "alone 0 2 0 = 1", "alone 0 2 10 = -1", "alone 0 2 11 = -1");
         Calls.run("house 9;house 9;rope 0 1 long 2;", "alone 0 7 0 = 0", "alone 0 7 10 = -1",
                 "alone 0 7 16 = -1");
+    }
+
+    @Says("the most buckets it can HAVE more behind these, if it alone pulls")
+    static void promise28_moreThanNow() {
+        // House 2 has one already; one bucket is full, and there is no stock any more.
+        String text = "fly 40;house 0 stock 0;house 0 stock 0;house 9 level 1 stock 2;"
+                + "rope 0 1 long 2 at 1;rope 2 0 long 2 at 1;rope 1 2 long 3 at 1;";
+        Calls.run(text, "alone 2 2 0 = 1", "alone 2 7 0 = 2", "pass = 0", "house 2 2 = 0",
+                "alone 2 1 0 = 1", "alone 2 1 10 = 1", "pull 2 1 = 1", "house 2 4 = 1",
+                "alone 2 1 0 = 0", "alone 2 2 0 = 0", "alone 2 3 0 = 1", "alone 2 3 10 = 2",
+                "alone 2 7 0 = 1", "alone 0 7 0 = 0", "alone 1 7 0 = 0", "cut 1 = 0",
+                "alone 2 3 0 = 1", "cut 2 = 0", "alone 2 7 0 = 0");
+        // Ropes of others that are cut take nothing from it.
+        Calls.run("fly 40;house 9 level 1;house 0 stock 0;house 0 stock 0;rope 1 2 long 2;"
+                + "rope 0 1 long 2 at 1;" + "rope 1 2 long 2;".repeat(3), "cut 2 = 0", "cut 4 = 0",
+                "alone 0 2 0 = 1", "alone 0 2 11 = 1", "cut 0 = 0", "cut 3 = 0", "alone 0 2 0 = 1");
+        // As often as can be: down by the stone, up by a pull, in each hour but the first.
+        Calls.run("fly 1;house 20 level 1;house 0 stock 0;rope 0 1 long 2 stones 1 0;",
+                "alone 0 1 0 = 0", "alone 0 2 0 = 1", "alone 0 3 0 = 1", "alone 0 4 0 = 2",
+                "alone 0 6 0 = 3", "alone 0 7 0 = 3", "pass = 0", "alone 0 1 0 = 1",
+                "alone 0 7 0 = 4", "pass = 0", "alone 0 7 0 = 4");
+        // No more than there is stock for.
+        for (int stock = 0; stock <= 4; stock++) {
+            Calls.run("fly 1;house 20 level 1 stock " + stock + ";house 0 stock 0;"
+                    + "rope 0 1 long 2 stones 1 0;", "alone 0 6 0 = " + Math.min(stock, 3));
+        }
     }
 
     @Says("if it alone pulls (at most 3 of its ROPES aren't CUT)")
@@ -313,9 +370,26 @@ final class SoughtEdges {
         Calls.run("house 0 thirst 1;house 0 thirst 1;house 0;" + ends, "dwellings 0 = 0",
                 "dwellings 1 = 2", "dwellings 10 = 0", "dwellings 11 = 2", "dwellings 12 = 1",
                 "cut 0 = 0", "dwellings 1 = 0", "dwellings 11 = 1");
+        // Three who move come first, but two are fewer.
+        Calls.run("house 0 thirst 1;house 0 thirst 6;house 0 thirst 6;rope 1 2 long 2;rope 0 2 long 2;",
+                "dwellings 0 = 0", "dwellings 1 = 2", "dwellings 10 = 2", "dwellings 11 = 1",
+                "dwellings 12 = 0");
+        // The ends of the third rope, told the other way round.
+        Calls.run("house 0 thirst 3;house 0 thirst 3;house 0 thirst 3;house 0 thirst 4;"
+                + "rope 1 0 long 2;rope 0 1 long 2;rope 3 2 long 2;", "dwellings 0 = 2",
+                "dwellings 1 = 2", "dwellings 10 = 0", "dwellings 11 = 3", "dwellings 12 = 2",
+                "dwellings 13 = 1", "cut 0 = 0", "dwellings 0 = 2", "dwellings 1 = 0");
         // One hour less is worth it.
         Calls.run("house 0 thirst 4095;house 0 thirst 4095;house 0 thirst 2047;" + ends,
                 "dwellings 0 = 11", "dwellings 1 = 2", "dwellings 10 = 0", "dwellings 11 = 2");
+    }
+
+    @Says("of all orders (the i-th HOUSE gets the THIRST of HOUSE order i)")
+    static void promise30_whoGetsWhose() {
+        // House 0 thirsts as 1 did, 1 as 2, 2 as 0; the other way round they would clash by 4.
+        Calls.run("house 0 thirst 6;house 0 thirst 1;house 0 thirst 7;rope 1 0 long 2;rope 2 0 long 2;"
+                + "rope 0 2 long 2;", "dwellings 0 = 1", "dwellings 1 = 3", "dwellings 10 = 1",
+                "dwellings 11 = 2", "dwellings 12 = 0", "house 0 3 = 6", "clash -1 = 4");
     }
 
     @Says("`int clash(int r)`: CLASH of a ROPE as it is; of NONE: of all that aren't CUT together. -2.")
@@ -325,6 +399,9 @@ final class SoughtEdges {
         Calls.run(text, "still clash 0 = 12", "clash 1 = 2", "clash 2 = 0", "still clash -1 = 14",
                 "cut 0 = 0", "still clash -1 = 2", "cut 1 = 0", "clash -1 = 0", "cut 2 = 0",
                 "clash -1 = 0");
+        Calls.run("house 0 thirst 1;house 0 thirst 3;house 0 thirst 7;house 0 thirst 8;"
+                + "rope 1 2 long 2;rope 0 3 long 2;rope 2 0 long 2;rope 3 1 long 2;", "clash 0 = 2",
+                "clash 1 = 0", "clash 2 = 1", "clash 3 = 0", "clash -1 = 3");
         Calls.run("house 0 thirst 4095;house 0 thirst 4095;" + "rope 0 1 long 2;".repeat(16),
                 "clash 15 = 12", "clash -1 = 192");
         Calls.run("", "clash -1 = 0");
@@ -355,6 +432,14 @@ final class SoughtEdges {
         // At its end it stays, whether the one that is up pulls or not.
         Calls.run("house 5 stock 0;house 5 stock 0;rope 0 1 long 4;", "row 0 0: 0", "seen 0 = 3",
                 "row 0 0: 1", "seen 0 = 1");
+        // Each of four houses has two ropes; only the third rope was moved, then the first, too.
+        String ring = "house 5 stock 0;".repeat(4) + "rope 0 1 long 4 at 2;rope 1 2 long 4 at 2;"
+                + "rope 3 2 long 4 at 2;rope 3 0 long 4 at 2;";
+        Calls.run(ring, "row 0 0: 2 2 1 2", "seen 0 = 3", "pulled 0 = 8", "row 0 0: 2 2 3 2",
+                "seen 0 = 3", "pulled 0 = 4", "row 0 0: 1 2 1 2", "seen 0 = 2", "pulled 0 = 9",
+                "row 0 0: 2 1 1 2", "seen 0 = 1", "pulled 0 = 10", "row 0 0: 3 3 1 3", "seen 0 = 1",
+                "pulled 0 = 15", "row 0 0: 1 2 1 3", "seen 0 = 0", "row 0 0: 2 2 2 2", "seen 0 = 7",
+                "pulled 0 = 0");
         Calls.run(LIKE, "cut 0 = 0", "row 0 0: 2", "seen 0 = 1", "row 0 0: 1", "seen 0 = 0");
         Calls.run(LIKE, TO_LAST_HOUR, "row 0 0: 2", "seen 0 = 2");
     }

@@ -121,7 +121,7 @@ final class ToldEdges {
                 "judge 0 0 = 0", "judge 0 1 = 3");
     }
 
-    @Says("It can't be at the first number by which it can't")
+    @Says("what 0: the first place that can't be (NONE; the ROW's length: its end), 1: why (0), 2: HOURS that would be done")
     static void promise09_theFirstPlace() {
         Calls.run(THREE, judged("row 0 1: 1 0 0 -1", 0, 1, 0, 0, 0));
         Calls.run(THREE, judged("row 0 1: 0 0 1 -1", 1, 2, 0, 0, 0));
@@ -217,6 +217,13 @@ final class ToldEdges {
                 "rope 2 3 = 2");
         Calls.run(three, "cut 1 = 0", "live 1 = 0", "rope 1 3 = 1", "rope 2 3 = 1");
         Calls.run(three, "cut 1 = 0", "cut 2 = 0", "custom 1 2 = 0");
+        // By its second buckets, and behind ropes of others.
+        String seconds = "house 0 stock 0;house 1 stock 0 thirst 1;house 0 stock 0;";
+        Calls.run(seconds + "rope 0 2 long 3 at 1;rope 0 1 long 3 at 3;rope 2 1 long 3 at 2;"
+                + "rope 0 1 long 3 at 1;", "live 1 = 0", "rope 0 3 = 1", "rope 1 3 = 3",
+                "rope 2 3 = 3", "rope 3 3 = 1");
+        Calls.run(seconds + "rope 1 0 long 3;rope 2 1 long 3 at 3;rope 1 0 long 3 at 1;", "live 1 = 0",
+                "rope 0 3 = 0", "rope 1 3 = 3", "rope 2 3 = 0");
     }
 
     @Says("3: how often both HOUSES of a ROPE pull it in one HOUR")
@@ -224,6 +231,10 @@ final class ToldEdges {
         String houses = "house 0 stock 0 thirst 4095;house 0 stock 0 thirst 3;";
         Calls.run(houses + "rope 0 1 long 2 at 1;", "custom 1 3 = 1", "custom 2 3 = 2",
                 "custom 3 3 = 2", "custom 12 3 = 2", "custom 14 3 = 4", "custom 3 2 = 5");
+        // Rope 2 alone is pulled by both.
+        Calls.run("house 0 stock 0 thirst 1;".repeat(4) + "rope 0 1 long 2;rope 1 0 long 2;"
+                + "rope 3 2 long 2 at 1;", "custom 1 3 = 1", "custom 1 2 = 4", "cut 2 = 0",
+                "custom 1 3 = 0", "custom 1 2 = 2");
         // Each one pulls a rope of its own.
         Calls.run(houses + "rope 0 1 long 2;rope 0 1 long 2 at 2;", "custom 1 3 = 0",
                 "custom 1 2 = 2");
