@@ -278,8 +278,9 @@ final class SoughtEdges {
                 "alone 2 3 0 = 1", "cut 2 = 0", "alone 2 7 0 = 0");
         // Ropes of others that are cut take nothing from it.
         Calls.run("fly 40;house 9 level 1;house 0 stock 0;house 0 stock 0;rope 1 2 long 2;"
-                + "rope 0 1 long 2 at 1;" + "rope 1 2 long 2;".repeat(3), "cut 2 = 0", "cut 4 = 0",
-                "alone 0 2 0 = 1", "alone 0 2 11 = 1", "cut 0 = 0", "cut 3 = 0", "alone 0 2 0 = 1");
+                + "rope 0 1 long 2 at 2;" + "rope 1 2 long 2;".repeat(3), "cut 2 = 0", "cut 4 = 0",
+                "alone 0 2 0 = 1", "alone 0 2 10 = 1", "alone 0 2 11 = 1", "cut 0 = 0", "cut 3 = 0",
+                "alone 0 2 0 = 1");
         // As often as can be: down by the stone, up by a pull, in each hour but the first.
         Calls.run("fly 1;house 20 level 1;house 0 stock 0;rope 0 1 long 2 stones 1 0;",
                 "alone 0 1 0 = 0", "alone 0 2 0 = 1", "alone 0 3 0 = 1", "alone 0 4 0 = 2",
@@ -370,6 +371,9 @@ final class SoughtEdges {
         Calls.run("house 0 thirst 1;house 0 thirst 1;house 0;" + ends, "dwellings 0 = 0",
                 "dwellings 1 = 2", "dwellings 10 = 0", "dwellings 11 = 2", "dwellings 12 = 1",
                 "cut 0 = 0", "dwellings 1 = 0", "dwellings 11 = 1");
+        // The most that can clash.
+        Calls.run("house 0 thirst 4095;house 0 thirst 4095;" + ends.repeat(16), "dwellings 0 = 192",
+                "dwellings 1 = 0", "dwellings 10 = 0", "dwellings 11 = 1");
         // Three who move come first, but two are fewer.
         Calls.run("house 0 thirst 1;house 0 thirst 6;house 0 thirst 6;rope 1 2 long 2;rope 0 2 long 2;",
                 "dwellings 0 = 0", "dwellings 1 = 2", "dwellings 10 = 2", "dwellings 11 = 1",
