@@ -347,6 +347,10 @@ final class SoughtEdges {
     static void promise30_sevenHouses() {
         Calls.run(houses(7), "still dwellings 0 = 0", "dwellings 1 = 0", "still dwellings 16 = 6",
                 "still dwellings 17 = -2");
+        // The first and the last one clash: the last one and the one ahead of it change houses.
+        Calls.run("house 0 thirst 1;" + houses(5) + "house 0 thirst 1;rope 6 0 long 2;", "dwellings 0 = 0",
+                "dwellings 1 = 2", "dwellings 10 = 0", "dwellings 14 = 4", "dwellings 15 = 6",
+                "dwellings 16 = 5");
         Calls.run(houses(8), "still dwellings 0 = -4", "still dwellings 1 = -4",
                 "still dwellings 10 = -4", "still dwellings 17 = -4", "still dwellings 18 = -2",
                 "still dwellings 2 = -2");
