@@ -1,5 +1,4 @@
 import java.lang.reflect.Method;
-import java.nio.charset.StandardCharsets;
 import java.util.ArrayList;
 import java.util.Arrays;
 import java.util.HashMap;
@@ -145,21 +144,22 @@ final class Calls {
                 : Integer.parseInt(text);
     }
 
+    // These two stand in the README, too: ReadmeTest looks whether they are the same there.
+
     /** Feeds a text and reads it as a land: what land() answered. */
     static int read(TwoWells x, String text) {
         feed(x, text);
         return x.land(text.length());
     }
 
-    private static void feed(TwoWells x, String text) {
-        byte[] b = text.getBytes(StandardCharsets.ISO_8859_1);
-        byte[] all = Arrays.copyOf(b, (b.length + 19) / 20 * 20);
-        for (int i = 0; i < all.length; i += 20) {
-            int[] v = new int[5];
-            for (int k = 0; k < 20; k++) {
-                v[k / 4] = v[k / 4] << 8 | all[i + k] & 255;
-            }
-            x.feed(v[0], v[1], v[2], v[3], v[4]);
+    /** Feeds a text, twenty bytes a call, with bytes 0 behind it up to the next twenty. */
+    static void feed(TwoWells x, String text) {
+        int[] v = new int[(text.length() + 19) / 20 * 5];
+        for (int i = 0; i < text.length(); i++) {
+            v[i / 4] |= text.charAt(i) << 24 - i % 4 * 8;
+        }
+        for (int k = 0; k < v.length; k += 5) {
+            x.feed(v[k], v[k + 1], v[k + 2], v[k + 3], v[k + 4]);
         }
     }
 

@@ -1,4 +1,3 @@
-import java.nio.charset.StandardCharsets;
 import java.util.ArrayList;
 import java.util.Arrays;
 import java.util.HashMap;
@@ -67,18 +66,6 @@ public final class ModelTest {
                 wrong++;
                 System.out.println("too seldom in the draws: " + key + " " + ANSWERED.get(key));
             }
-        }
-    }
-
-    private static void feed(TwoWells x, String text) {
-        byte[] b = text.getBytes(StandardCharsets.ISO_8859_1);
-        byte[] all = Arrays.copyOf(b, (b.length + 19) / 20 * 20);
-        for (int i = 0; i < all.length; i += 20) {
-            int[] v = new int[5];
-            for (int k = 0; k < 20; k++) {
-                v[k / 4] = v[k / 4] << 8 | all[i + k] & 255;
-            }
-            x.feed(v[0], v[1], v[2], v[3], v[4]);
         }
     }
 
@@ -154,7 +141,7 @@ public final class ModelTest {
         Model m = new Model();
         List<String> log = new ArrayList<>();
         log.add(text);
-        feed(x, text);
+        Calls.feed(x, text);
         m.feedText(text);
         int n = text.length();
         compare(seed, log, "land(" + n + ")", x.land(n), m.land(n));
@@ -262,7 +249,7 @@ public final class ModelTest {
         }
 
         void read(String text) {
-            feed(x, text);
+            Calls.feed(x, text);
             m.feedText(text);
             int n = text.length();
             log.add(text);
